@@ -252,6 +252,12 @@ final class DaysTest {
         DUE.is("debtor: by one more", 7, x.debtor());
         x.hole(HOLE, 1, 41, 0);
         DUE.is("debtor: the first", 0, x.debtor());
+        for (int owner = 0; owner <= 7; owner++) {
+            DigFill y = HolesTest.oneOfEach(3, 9, (owner + 1) % 8);
+            y.set(0, 3, owner);
+            y.set(0, 2, 46);
+            DUE.is("debtor: any", owner, y.debtor());
+        }
     }
 
     private static void promise24Dug() {

@@ -240,6 +240,16 @@ final class DigsTest {
         DUE.is("dealing: want 0 can't", DigFill.NONE, u.dealing(2));
         DUE.is("dealing: want 1 has it", 0, u.dealing(3));
         DUE.is("dealing: want 2 has none", DigFill.NONE, u.dealing(4));
+        // none of six
+        DigFill s = new DigFill();
+        for (int w = 0; w < 6; w++) {
+            s.want(3, 1);
+        }
+        DUE.is("dealing: none of six is met", 0, s.dealing(0));
+        DUE.is("dealing: no miles", 0, s.dealing(1));
+        for (int w = 0; w < 6; w++) {
+            DUE.is("dealing: no hole", DigFill.NONE, s.dealing(2 + w));
+        }
         // all at the greatest distance
         DigFill t = new DigFill();
         t.rule(0, 29);

@@ -200,11 +200,11 @@ final class RowsTest {
             x.set(2, 4, 99);
             x.forget();
             x.want(29, 99);
+            x.turns(1, 5);
+            DUE.is("back: one more is dug", 7, x.dig(3, 20, 1, 1));
             x.rule(0, 0);
             x.rule(1, 200);
             x.deal(10);
-            x.dig(3, 1, 1, 1);
-            x.hole(0, 1, 1, 1);
             x.tell(3);
             x.feed(1, 2, 3);
             x.mark(0, 0, 5);

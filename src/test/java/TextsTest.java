@@ -7,6 +7,7 @@ final class TextsTest {
         promise27Trim();
         promise28Numbers();
         promise28Faults();
+        promise28OneByOne();
         promise28Depths();
         promise28Values();
         promise28ValuesAtTheEdges();
@@ -73,7 +74,7 @@ final class TextsTest {
     /** Each text with the place of its fault: where the sign ~ stands in it (which is taken out). */
     private static void promise28Faults() {
         String[] faults = {
-            "~", "   ~", "~lax 1", "~lawd", "~Law 1", "  ~settles 1", "~1", "~(law 1)", "law~", "law  ~", "law~1", "law ~x", "law ~a",
+            "~", "   ~", "~maw 1", "~lettle 1", "~wine 1", "~laws 1", "~la 1", "~fin 1", "~lax 1", "~lawd", "~Law 1", "  ~settles 1", "~1", "~(law 1)", "law~", "law  ~", "law~1", "law ~x", "law ~a",
             "law ~e", "law ~l", "settle ~o", "settle ~e", "settle ~l", "fine ~d", "fine ~x", "fine ~a", "fine ~o", "law ~law", "law ~dd",
             "law ~do", "law d ~d", "law d ~o", "law 1 ~2", "law d~1", "law 1~d", "law ~12345", "law 1+~00001", "law d+~", "law d+ ~",
             "law d ~!", "law d~!d", "law d~(o)", "law (d~", "law (d~(", "law (d) ~)", "law d~)", "law (~)", "law ~)", "law ~+d",
@@ -94,6 +95,20 @@ final class TextsTest {
         for (String text : right) {
             DUE.is("text: " + text, 0, Due.text(new DigFill(), text));
         }
+    }
+
+    /** What an act has read does not matter to the next one. */
+    private static void promise28OneByOne() {
+        DigFill x = new DigFill();
+        String[] spoilt = {"fine x", "fine ((((((((", "fine !!!!!!!!", "fine (((((((((", "fine !!!!!!!!!", "fine 1+2*", "fine 7777 8888", "law", ""};
+        for (String text : spoilt) {
+            DUE.holds("text: a fault: " + text, Due.text(x, text) <= -100);
+            DUE.is("text: behind " + text, x.count(9), Due.text(x, "fine !!!!!!!!((((((((0))))))))+6"));
+            DUE.is("text: counts behind " + text, 6, x.fine(0));
+            DUE.is("text: its pieces behind " + text, 2, x.textTold(x.count(9) - 1, 1));
+        }
+        DUE.is("text: a key by itself", -104, Due.text(x, "fine"));
+        DUE.is("text: another key's names", x.count(9), Due.text(x, "settle a"));
     }
 
     private static void promise28Depths() {
@@ -127,9 +142,9 @@ final class TextsTest {
 
     private static void promise28Values() {
         int[] due = {
-            0, 9999, 7, 57, 23, 680, 2, -5, 14, 20, -7, 8, 1, 0, 1, 0, 0, 1, 0, 1, 1, 1, 0, 0, 0, 1, 1, 40, 1, 0, 1, 2, 1, 0, 1, 5, 0, 1, 1};
+            0, 9999, 0, 2, 1, 7, 57, 23, 680, 2, -5, 14, 20, -7, 8, 1, 0, 1, 0, 0, 1, 0, 1, 1, 1, 0, 0, 0, 1, 1, 40, 1, 0, 1, 2, 1, 0, 1, 5, 0, 1, 1};
         String[] texts = {
-            "0", "9999", "0007", "e+l", "e-l", "e*l", "e/l", "0-e/8", "2+3*4", "(2+3)*4", "1-5-3", "16/4*2", "l<e", "e<l", "e>l", "l>e",
+            "0", "9999", "e>e", "2*(0|3)", "(0&1|3)", "0007", "e+l", "e-l", "e*l", "e/l", "0-e/8", "2+3*4", "(2+3)*4", "1-5-3", "16/4*2", "l<e", "e<l", "e>l", "l>e",
             "e<e", "e=40", "e=l", "1|0", "0|5", "7|5", "0|0", "7&0", "0&7", "7&5", "!0", "e", "!!e", "!e", "1|1&0", "!e+2", "1<2&2<3",
             "2<1|0&1", "1+1=2", "!0+4", "(1<2)<1", "3-3|e", "!(1=2)"};
         for (int i = 0; i < due.length; i++) {
