@@ -152,7 +152,7 @@ final class DayEdges {
     }
 
     static void thoughtFromTheLotAsItIs(Edges e) {
-        e.says("from now on, z as it is,");
+        e.says("is only thought, from now on, z as it is,");
         for (int seed = 0; seed < 20; seed++) {
             DigFill x = Edges.made("seed " + seed, "deal 10", "say settle x");
             for (int days = 1; days <= 20; days += 6) {
@@ -184,7 +184,7 @@ final class DayEdges {
     }
 
     static void behindBeyondTheLastDay(Edges e) {
-        e.says("without the bound of THE DAY");
+        e.says("without the bound of THE DAY: nothing changes.)");
         DigFill x = Edges.onDay(9999, "say settle 5", "hole 0 5 99 5", "hole 0 5 20 5", "want 5 1", "want 5 2");
         e.due(119, x, "behind 0 1");
         e.due(109, x, "behind 1 1");
@@ -203,7 +203,7 @@ final class DayEdges {
     }
 
     static void bestBeyondTheLastDay(Edges e) {
-        e.says("without the bound of THE DAY: nothing");
+        e.says("without the bound of THE DAY: nothing changes.)");
         DigFill x = Edges.onDay(9998, "say law 7", "say settle 0", "hole 1 5 50 5", "want 5 5");
         e.due(7, x, "best 30 0");
         e.due(1, x, "best 30 1");
@@ -211,7 +211,7 @@ final class DayEdges {
     }
 
     static void dugBeyondTheLastDay(Edges e) {
-        e.says("without the bound of THE DAY: nothing changes");
+        e.says("without the bound of THE DAY: nothing changes.)");
         DigFill x = Edges.onDay(9999, "say settle 5", "hole 0 5 99 5", "sheet 0 0 3", "mark 0 0 99", "mark 0 1 94", "mark 0 2 88");
         e.due(1, x, "dug 0 1");
     }

@@ -148,16 +148,17 @@ final class Edges {
         return x;
     }
 
-    /** Each number and each refusal that the document names stands in words that a test says. */
+    /** No word of the terms and the promises but their headings is left without a test that says it. */
     void coverAll() {
         int from = document.indexOf("## Terms");
         int to = document.indexOf("## Not promised");
-        Matcher m = Pattern.compile("(?m)^#.*$|^Ahead of .*$|\\d+|\\b(BAD|NO|FULL|NONE|NOTHING|KIND|INDEX|SIZE)\\b").matcher(document);
-        m.region(Math.max(0, from), to < 0 ? document.length() : to);
+        due.holds("the document has terms and promises", from >= 0 && from < to);
+        Matcher m = Pattern.compile("(?m)^(#|Ahead of |```).*$|\\w+").matcher(document);
+        m.region(Math.max(0, from), Math.max(0, to));
         while (m.find()) {
-            boolean heading = m.group().startsWith("#") || m.group().startsWith("Ahead of");
+            boolean heading = m.group(1) != null || m.group().equals("and");
             int end = Math.min(document.length(), m.end() + 20);
-            due.holds("a test for: .." + document.substring(Math.max(0, m.start() - 40), end) + "..", heading || quoted.get(m.start()));
+            due.holds("a test says: .." + document.substring(Math.max(0, m.start() - 40), end) + "..", heading || quoted.get(m.start()));
         }
     }
 

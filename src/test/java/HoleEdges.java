@@ -142,7 +142,8 @@ final class HoleEdges {
     }
 
     static void holeTakesUpToItsDepthWithinAMile(Edges e) {
-        e.says("HOLE: if e is DEPTH at most, and the PLACES are no more than MILE apart.");
+        e.says("TAKES: whether it can be filled with e of EARTH from a PLACE: HOLE: if e is DEPTH at most, "
+            + "and the PLACES are no more than MILE apart.");
         asHole(e, 0);
         DigFill x = one(0, 0, 0);
         e.due(0, x, "takes 15 1");
@@ -414,7 +415,7 @@ final class HoleEdges {
     }
 
     static void promise4(Edges e) {
-        e.says("A HOLE as one of a KIND: DEPTH. BAD: hole, kind; KIND: it is not of that KIND, nor of one under it.");
+        e.says("`int as(int hole, int kind)`: A HOLE as one of a KIND: DEPTH. BAD: hole, kind; KIND: it is not of that KIND, nor of one under it.");
         e.bounds(0, 1, "as ? 0", "deal 2");
         e.bounds(0, 9, "as ? 0", "deal 10");
         DigFill x = HolesTest.oneOfEach(5, 7, 5);

@@ -328,6 +328,11 @@ final class RowEdges {
             DigFill x = kept();
             tell(x, java.util.Arrays.copyOf(due, many));
             e.due(1 + many, x, "check 5");
+            // nor do numbers count that waited before
+            tell(x, due);
+            e.due(0, x, "check 5");
+            tell(x, java.util.Arrays.copyOf(due, many));
+            e.due(1 + many, x, "check 5");
         }
         // sixty are due of 30 DAYS: with 59 the last is missing
         DigFill x = kept();

@@ -115,6 +115,17 @@ final class SheetEdges {
         e.due(7, x, "item 0 0");
     }
 
+    static void anyNumber(Edges e) {
+        e.says("or a number. FINDINGS");
+        int[] numbers = {Integer.MIN_VALUE, Integer.MAX_VALUE, 0, -1, BAD, NONE};
+        for (int v : numbers) {
+            DigFill x = Edges.made("lay 0 3 " + v);
+            e.due(v % 100000, x, "rest 0 100000");
+            e.due(v % 7, x, "rest 0 7");
+            e.each(KIND, x, "ask 0 0", "item 0 0");
+        }
+    }
+
     static void findingNothing(Edges e) {
         e.says("NOTHING: a SHEET is MISSING, a SLOT holds nothing;");
         DigFill x = Edges.made("sheet 0 0 3", "sheet 0 -1 3", "lay 0 3 5", "lay 0 0 5");

@@ -121,8 +121,18 @@ final class TextEdges {
     static void threeKeys(Edges e) {
         e.says("KEY: law | settle | fine.");
         isText(e, "law 1", "settle 1", "fine 1");
-        isFault(e, "@la 1", "@laws 1", "@lax 1", "@l 1", "@settl 1", "@settles 1", "@fin 1", "@fines 1", "@Law 1", "@LAW 1", "@d 1", "@x",
+        isFault(e, "@maw 1", "@nettle 1", "@wine 1", "@low 1", "@la 1", "@laws 1", "@lax 1", "@l 1", "@settl 1", "@settles 1", "@fin 1", "@fines 1", "@Law 1", "@LAW 1", "@d 1", "@x",
             "@12 1", "law@1", "@lawfine 1", "@what 1");
+    }
+
+    static void loosestFirst(Edges e) {
+        e.says("E, the loosest first:");
+        gives(e, 1, "1|0&0", "0&0|1", "1|1=0", "2&1<2", "1=0+1", "5-4=1", "1<2*3", "!0*1=1");
+        gives(e, 0, "0&1|0", "0&(0|1)", "(1|0)&0", "1<1|0", "(1|1)=0", "2=1+2");
+        gives(e, 7, "1+2*3", "10-6/2", "!0+2*3");
+        gives(e, 9, "(1+2)*3");
+        gives(e, 2, "(10-6)/2", "4/(1+1)", "!(0+2)*3+2");
+        gives(e, -4, "!0*3-7");
     }
 
     static void orsOfAnds(Edges e) {
@@ -287,7 +297,7 @@ final class TextEdges {
     }
 
     static void signsByThemselves(Edges e) {
-        e.says("is a sign by itself. Between words");
+        e.says("as long as it goes; any other byte is a sign by itself.");
         isText(e, "fine!!1", "fine((1))", "fine 1+(1)");
         isFault(e, "fine 1<@=2", "fine 1&@&2", "fine 1|@|2", "fine 1+@+2", "fine @==1", "fine 1=@=1", "fine 1>@=1");
     }
