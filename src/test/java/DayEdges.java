@@ -325,6 +325,36 @@ final class DayEdges {
         e.due(0, x, "dug 1 1");
     }
 
+    /** All that there may be of HOLES and of places: the last HOLE at the last place tells. */
+    static void dugOfTenHoles(Edges e) {
+        e.says("differ least (signs left out), together; of several the least.");
+        DigFill x = Edges.made("sheet 0 0 24", "mark 0 23 1");
+        for (int h = 0; h < 10; h++) {
+            x.hole(3, 5, h == 9 ? 1 : 2, 5);
+        }
+        e.due(9, x, "dug 0 0");
+        e.due(23, x, "dug 0 1");
+        x.set(9, 2, 2);
+        e.due(0, x, "dug 0 0");
+        e.due(47, x, "dug 0 1");
+    }
+
+    /** The sixth WANT is thought of too: at first there is a HOLE for it alone. */
+    static void thoughtOfSixWants(Edges e) {
+        e.says("how many WANTS are MET in THE DEALING; DEPTH of all HOLES, together; how many are FILLED.");
+        DigFill x = Edges.made("rule 1 100", "rule 0 0", "say settle 1", "hole 0 29 60 0");
+        for (int w = 0; w < 5; w++) {
+            x.want(0, 99);
+        }
+        e.due(5, x, "want 29 60");
+        e.due(1, x, "behind 0 0");
+        e.due(0, x, "behind 1 0");
+        e.due(1, x, "best 1 1");
+        x.set(0, 2, 61);
+        e.due(1, x, "behind 1 0");
+        e.due(0, x, "behind 2 0");
+    }
+
     // ---- promises 18 to 25
 
     static void promise18(Edges e) {

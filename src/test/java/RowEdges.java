@@ -201,6 +201,37 @@ final class RowEdges {
         e.due(NONE, x, "why 2");
     }
 
+    /** Ten HOLES, six WANTS, 14 TEXTS: the last of each is kept as well. */
+    static void imageKeepsTheLastOfEach(Edges e) {
+        e.says("AN IMAGE keeps all but SHEETS");
+        DigFill x = Edges.made("rule 1 100", "deal 9", "hole 5 29 99 7", "set 9 4 999");
+        for (int w = 0; w < 5; w++) {
+            x.want(0, 1);
+        }
+        Edges.answer(x, "want 29 99");
+        for (int t = 0; t < 14; t++) {
+            Due.text(x, t == 13 ? "fine 13" : "law " + t);
+        }
+        e.due(10, x, "keep");
+        String[] spoil = {"turns 9 0", "set 9 1 0", "set 9 2 0", "set 9 3 0", "set 9 4 0", "forget"};
+        for (String call : spoil) {
+            Edges.answer(x, call);
+        }
+        for (int w = 0; w < 6; w++) {
+            x.want(0, 1);
+        }
+        e.due(10, x, "back");
+        int[] parts = {5, 29, 99, 7, 999};
+        for (int what = 0; what < parts.length; what++) {
+            e.due(parts[what], x, "told 9 " + what);
+        }
+        e.due(9, x, "dealing 7"); // from PLACE 29, all of HOLE 9
+        e.due(13, x, "why 2");
+        e.due(12, x, "why 0");
+        e.due(13, x, "fine 0");
+        e.due(2, x, "textTold 13 0");
+    }
+
     static void imageLeavesThoseAsTheyAre(Edges e) {
         e.says("all but SHEETS, SLOTS, numbers that wait, THE TAPE;");
         DigFill x = Edges.made("keep", "sheet 0 0 2", "mark 0 1 8", "lay 0 3 17", "tell 1", "tell 2", "feed 1 2 3", "back");
